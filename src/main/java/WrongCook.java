@@ -530,7 +530,6 @@ public final class WrongCook {
             reader.stray();
             return NOTHING;
         }
-        reader.step();
         Formula formula = ofTest ? formulas.readTest(true) : formulas.readSum(true);
         if (formula == null) {
             return NOTHING;
@@ -918,40 +917,34 @@ public final class WrongCook {
             word = NONE;
             if (start >= size) {
                 kind = TOKEN_END;
-            } else if (bytes[start] >= 'a' && bytes[start] <= 'z') {
-                kind = touching ? TOKEN_TOUCHING : TOKEN_WORD;
-                readWord();
-            } else if (bytes[start] >= '0' && bytes[start] <= '9') {
-                kind = touching ? TOKEN_TOUCHING : TOKEN_NUMBER;
-                readDigits();
-            } else {
-                kind = TOKEN_SIGN;
-                value = bytes[start] & 255;
-                stop++;
+                return;
             }
-        }
-
-        private void readWord() {
             while (stop < size && bytes[stop] >= 'a' && bytes[stop] <= 'z') {
                 if (stop - start < NAME_LETTERS) {
                     value |= bytes[stop] - 'a' + 1 << 25 - 5 * (stop - start);
                 }
                 stop++;
             }
-            if (kind == TOKEN_WORD && stop - start <= NAME_LETTERS) {
-                for (int k = 0; k < WORD_COUNT; k++) {
+            if (stop > start) {
+                kind = touching ? TOKEN_TOUCHING : TOKEN_WORD;
+                for (int k = 0; !touching && stop - start <= NAME_LETTERS && k < WORD_COUNT; k++) {
                     word = words[k] == value ? k : word;
                 }
+                return;
             }
-        }
-
-        private void readDigits() {
             while (stop < size && bytes[stop] >= '0' && bytes[stop] <= '9') {
                 if (stop - start < NUMBER_DIGITS) {
                     value = 10 * value + bytes[stop] - '0';
                 }
                 stop++;
             }
+            if (stop > start) {
+                kind = touching ? TOKEN_TOUCHING : TOKEN_NUMBER;
+                return;
+            }
+            kind = TOKEN_SIGN;
+            value = bytes[start] & 255;
+            stop++;
         }
 
         /** Always false, so that it can end a reading. */
@@ -962,7 +955,9 @@ public final class WrongCook {
         }
 
         boolean stray() {
-            return refuse(FAULT_TEXT, start);
+            fault = FAULT_TEXT;
+            faultPlace = start;
+            return false;
         }
 
         boolean isSign(char sign) {
@@ -1019,7 +1014,7 @@ public final class WrongCook {
         }
     }
 
-    /** Turns a TEST or a SUM, where the reader stands, into a formula. */
+    /** Turns the TEST or SUM behind the word where the reader stands into a formula. */
     private static final class FormulaReader {
         private final Reader reader;
         private final int[] codes = new int[TAPE_ROOM];
@@ -1034,6 +1029,7 @@ public final class WrongCook {
         Formula readTest(boolean ofQuestion) {
             this.ofQuestion = ofQuestion;
             size = 0;
+            reader.step();
             return test(0) ? new Formula(Arrays.copyOf(codes, size)) : null;
         }
 
@@ -1041,6 +1037,7 @@ public final class WrongCook {
         Formula readSum(boolean ofQuestion) {
             this.ofQuestion = ofQuestion;
             size = 0;
+            reader.step();
             return sum(0) ? new Formula(Arrays.copyOf(codes, size)) : null;
         }
 
@@ -1306,9 +1303,17 @@ public final class WrongCook {
                 case WORD_SISTER:
                     return readSister();
                 case WORD_SWAPS:
-                    return story.swaps == null ? readSwaps() : tooMany();
+                    if (story.swaps != null) {
+                        return tooMany();
+                    }
+                    story.swaps = formulas.readTest(false);
+                    return story.swaps != null;
                 case WORD_PAYS:
-                    return story.pays == null ? readPays() : tooMany();
+                    if (story.pays != null) {
+                        return tooMany();
+                    }
+                    story.pays = formulas.readSum(false);
+                    return story.pays != null;
                 case WORD_FOG:
                     return readFog();
                 default:
@@ -1415,18 +1420,6 @@ public final class WrongCook {
             }
             story.sisters[held] = sister;
             return true;
-        }
-
-        private boolean readSwaps() {
-            reader.step();
-            story.swaps = formulas.readTest(false);
-            return story.swaps != null;
-        }
-
-        private boolean readPays() {
-            reader.step();
-            story.pays = formulas.readSum(false);
-            return story.pays != null;
         }
 
         private boolean readFog() {
