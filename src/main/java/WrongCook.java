@@ -25,6 +25,7 @@ public final class WrongCook {
     private static final int UNDO_ROOM = 20;
     private static final int NOTE_ROWS = 20;
     private static final int IMAGE_ROOM = 63;
+    private static final int LOWEST_31_BITS = 0x7fffffff;
 
     private static final int FAULT_TEXT = 1;
     private static final int FAULT_NUMBER = 2;
@@ -424,7 +425,7 @@ public final class WrongCook {
         int reached = 1 << from;
         for (int steps = 1; steps < story.holders; steps++) {
             reached = withNeighbours(reached);
-            if ((reached >> to & 1) == 1) {
+            if (((reached >> to) & 1) == 1) {
                 return steps;
             }
         }
@@ -607,7 +608,7 @@ public final class WrongCook {
     }
 
     private static int letterOf(int name, int k) {
-        return name >> 25 - 5 * k & 31;
+        return (name >> (25 - 5 * k)) & 31;
     }
 
     private void putNumber(int number) {
@@ -676,7 +677,7 @@ public final class WrongCook {
         int bits = 0;
         for (int k = 0; k < size; k++) {
             int holder = tapeByte(k);
-            if (!isHolder(holder) || (bits >> holder & 1) == 1) {
+            if (!isHolder(holder) || ((bits >> holder) & 1) == 1) {
                 return false;
             }
             bits |= 1 << holder;
@@ -710,7 +711,7 @@ public final class WrongCook {
     }
 
     private int draw(int many) {
-        seed = 1103515245 * seed + 12345 & Integer.MAX_VALUE;
+        seed = (1103515245 * seed + 12345) & LOWEST_31_BITS;
         return many > 0 ? seed / 64 % many : 0;
     }
 
@@ -719,7 +720,7 @@ public final class WrongCook {
         int bits = 0;
         for (int holder = 0; holder < story.holders; holder++) {
             int source = now.holderOf(now.wants[holder], story.holders);
-            if (source == NONE || (bits >> source & 1) == 1) {
+            if (source == NONE || ((bits >> source) & 1) == 1) {
                 return false;
             }
             bits |= 1 << source;
@@ -743,7 +744,7 @@ public final class WrongCook {
         int wider = reached;
         for (int one = 0; one < story.holders; one++) {
             for (int other = 0; other < story.holders; other++) {
-                if ((reached >> one & 1) == 1 && haveMet(one, other)) {
+                if (((reached >> one) & 1) == 1 && haveMet(one, other)) {
                     wider |= 1 << other;
                 }
             }
@@ -840,7 +841,7 @@ public final class WrongCook {
         int had = 0;
         for (int holder = 0; holder < story.holders; holder++) {
             int held = tapeByte(imagePlace(holder));
-            if (!isHolderImage(holder) || (had >> held & 1) == 1) {
+            if (!isHolderImage(holder) || ((had >> held) & 1) == 1) {
                 return false;
             }
             had |= 1 << held;
@@ -890,7 +891,7 @@ public final class WrongCook {
                     count++;
                     letters = 0;
                 } else if (count < WORD_COUNT && letters < NAME_LETTERS) {
-                    words[count] |= sign - 'a' + 1 << 25 - 5 * letters;
+                    words[count] |= (sign - 'a' + 1) << (25 - 5 * letters);
                     letters++;
                 }
             }
@@ -921,7 +922,7 @@ public final class WrongCook {
             }
             while (stop < size && bytes[stop] >= 'a' && bytes[stop] <= 'z') {
                 if (stop - start < NAME_LETTERS) {
-                    value |= bytes[stop] - 'a' + 1 << 25 - 5 * (stop - start);
+                    value |= (bytes[stop] - 'a' + 1) << (25 - 5 * (stop - start));
                 }
                 stop++;
             }
@@ -1523,7 +1524,7 @@ public final class WrongCook {
         }
 
         boolean areFeuding(int one, int other) {
-            return (feuds[one] >> other & 1) == 1;
+            return ((feuds[one] >> other) & 1) == 1;
         }
 
         int valueOf(int holder, int held) {
@@ -1771,7 +1772,7 @@ public final class WrongCook {
         int fewest(int[] wanted) {
             System.arraycopy(wanted, 0, order, 0, PEOPLE);
             int rank = rankOfOrder();
-            for (; steps[rank] == NONE && head < tail; head++) {
+            for (; steps[rank] == NONE && head < tail && head < queue.length; head++) {
                 reachFrom(queue[head]);
             }
             return steps[rank];
@@ -1779,7 +1780,7 @@ public final class WrongCook {
 
         private void reachFrom(int packed) {
             for (int k = 0; k < holders; k++) {
-                order[k] = packed >> 3 * k & 7;
+                order[k] = (packed >> (3 * k)) & 7;
             }
             int next = steps[rankOfOrder()] + 1;
             for (int move = 0; move < moveCount; move += 3) {
@@ -1809,7 +1810,7 @@ public final class WrongCook {
             }
             steps[rank] = many;
             for (int k = 0; k < holders; k++) {
-                queue[tail] |= order[k] << 3 * k;
+                queue[tail] |= order[k] << (3 * k);
             }
             tail++;
         }
@@ -1819,7 +1820,7 @@ public final class WrongCook {
             int used = 0;
             for (int k = 0; k < holders; k++) {
                 int one = 1 << order[k];
-                rank = rank * (holders - k) + order[k] - Integer.bitCount(used & one - 1);
+                rank = rank * (holders - k) + order[k] - Integer.bitCount(used & (one - 1));
                 used |= one;
             }
             return rank;
@@ -1839,7 +1840,7 @@ public final class WrongCook {
                 point(story, now, left);
                 int leaving = 0;
                 for (int holder = 0; holder < story.holders; holder++) {
-                    int size = (left >> holder & 1) == 1 ? ringOf(holder) : 0;
+                    int size = ((left >> holder) & 1) == 1 ? ringOf(holder) : 0;
                     if (size > 0) {
                         gets[holder] = now.has[pointsAt[holder]];
                         rounds[holder] = round;
@@ -1857,7 +1858,7 @@ public final class WrongCook {
                 int best = story.valueOf(holder, now.has[holder]);
                 for (int held = 0; held < story.helds; held++) {
                     int other = now.holderOf(held, story.holders);
-                    boolean there = other != NONE && (left >> other & 1) == 1;
+                    boolean there = other != NONE && ((left >> other) & 1) == 1;
                     if (there && story.valueOf(holder, held) > best) {
                         best = story.valueOf(holder, held);
                         pointsAt[holder] = other;
@@ -1931,8 +1932,8 @@ public final class WrongCook {
             }
             int open = allowed[holder] & ~bits;
             for (int held = 0; held < helds; held++) {
-                if ((open >> held & 1) == 1) {
-                    waysTo[bits | 1 << held] += waysTo[bits];
+                if (((open >> held) & 1) == 1) {
+                    waysTo[bits | (1 << held)] += waysTo[bits];
                 }
             }
         }
@@ -1945,8 +1946,8 @@ public final class WrongCook {
             }
             int open = allowed[holder] & ~bits;
             for (int held = 0; held < helds; held++) {
-                if ((open >> held & 1) == 1) {
-                    int from = waysFrom[bits | 1 << held];
+                if (((open >> held) & 1) == 1) {
+                    int from = waysFrom[bits | (1 << held)];
                     waysFrom[bits] += from;
                     counts[holder * PEOPLE + held] += waysTo[bits] * from;
                 }
