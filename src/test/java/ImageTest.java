@@ -37,6 +37,12 @@ final class ImageTest {
         }
         c.due("octet behind", x.octet(due.length), -1);
         c.due("octet -1", x.octet(-1), -1);
+        WrongCook late = new WrongCook();
+        late.nights(100);
+        late.nights(100);
+        late.nights(56);
+        late.image();
+        c.due("night 256", late.octet(0) * 1000 + late.octet(1), 1000);
         Check.open(x, "");
         c.due("of the latest image", x.octet(1), 44);
         c.due("a shorter one", x.image(), 3);

@@ -85,6 +85,7 @@ final class SearchTest {
         c.due("there", x.meetings(2) + 10 * x.meetings(3), 0);
         Check.open(x, wanting("ba") + "feud p q;");
         c.due("of the new case", x.meetings(2), -1);
+        c.due("of the new case", x.meetings(3), -1);
     }
 
     private static void gain(Check c) {
@@ -123,6 +124,17 @@ final class SearchTest {
         c.due("p is not in round 1", y.trade(0, 1), 2);
         c.due("q stays with b, in round 1", y.trade(1, 1), 1);
         c.due("p and r then", y.trade(2, 1), 2);
+        WrongCook round = Check.opened(wanting("abcdef") + "values p b 1;values q c 1;values r d 1;values s e 1;"
+                + "values t f 1;values u a 1;");
+        c.due("all six in a ring", round.trade(3, 2), 6);
+        c.due("in round 1", round.trade(5, 1), 1);
+        // Each points at the one ahead, who leaves first.
+        WrongCook chain = Check.opened(wanting("abcdef") + "values q a 9;values r a 9;values r b 8;values s a 9;values s b 8;"
+                + "values s c 7;values t a 9;values t b 8;values t c 7;values t d 6;values u a 9;values u b 8;values u c 7;"
+                + "values u d 6;values u e 5;");
+        for (int k = 0; k < 6; k++) {
+            c.due("rounds, one by one " + k, chain.trade(k, 1), k + 1);
+        }
         WrongCook z = Check.opened(wanting("abc") + "values p f 9;");
         c.due("whom nobody holds does not count", z.trade(0, 1), 1);
     }
