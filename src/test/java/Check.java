@@ -1,15 +1,48 @@
+import java.io.IOException;
 import java.nio.charset.StandardCharsets;
+import java.nio.file.Files;
+import java.nio.file.Path;
 
 /** What the tests share: tapes, and counting the answers that are not the ones due. */
 final class Check {
+    private static final Path DOCUMENT = Path.of("../shared/DOC.md");
     private int wrong = 0;
     private int asked = 0;
+    private String sentence = "";
+    private String document = null;
+
+    /** The sentence of the document by which the next answers are due. */
+    void by(String words) {
+        sentence = "";
+        due("the document does not say '" + words + "':", document().contains(words) || document.isEmpty(), true);
+        sentence = "'" + words + "': ";
+    }
+
+    /** With one blank for any; empty where it is not at hand. */
+    private String document() {
+        if (document == null) {
+            try {
+                document = Files.exists(DOCUMENT) ? Files.readString(DOCUMENT).replaceAll("\\s+", " ") : "";
+            } catch (IOException e) {
+                document = "";
+            }
+        }
+        return document;
+    }
 
     void due(String call, long got, long want) {
         asked++;
         if (got != want) {
             wrong++;
-            System.out.println(call + " answered " + got + ", due is " + want);
+            System.out.println(sentence + call + " answered " + got + ", due is " + want);
+        }
+    }
+
+    void due(String call, String got, String want) {
+        asked++;
+        if (!got.equals(want)) {
+            wrong++;
+            System.out.println(sentence + call + "\n  answered " + got + "\n  due is   " + want);
         }
     }
 
