@@ -32,6 +32,7 @@ final class EdgeCaseTest {
         nameAsked(c);
         numberAsked(c);
         endsTooSoon(c);
+        semicolonsTooSoon(c);
         numberThatCannotBe(c);
         nameThatCannotBe(c);
         firstAlong(c);
@@ -418,21 +419,38 @@ final class EdgeCaseTest {
         fine(c, "held a salt 0001;", 1);
     }
 
+    /** Beginnings of statements that can't end yet. */
+    private static String[] begun() {
+        String whole = "held a salt 1;held b salt 2;holder p has a wants b purse 5;";
+        return new String[] {"held", "held a", "held a salt", whole + "holder", whole + "holder q",
+            whole + "holder q has", whole + "holder q has b", whole + "holder q has b wants",
+            whole + "holder q has b wants a", whole + "holder q has b wants a purse", whole + "values",
+            whole + "values p", whole + "values p a", whole + "feud", whole + "feud p", whole + "sister",
+            whole + "sister a", "swaps", "swaps not", "swaps all or", "swaps all and", "swaps [", "swaps [all",
+            "swaps 1", "swaps 1<", "swaps 1=", "swaps 1>", "pays", "pays (", "pays (1", "pays 1+", "pays 1-",
+            "pays 1*", "pays 1/", "pays min", "pays min(", "pays min(1", "pays min(1,", "pays max(1,2", "fog"};
+    }
+
+    private static void semicolonsTooSoon(Check c) {
+        c.by("1 the first byte with which no such text goes on");
+        for (String part : begun()) {
+            fault(c, 1, part + "^;");
+            fault(c, 1, part + "\n ^;fog 5;");
+        }
+    }
+
     private static void endsTooSoon(Check c) {
         c.by("at the text's length, if it ends too soon)");
-        String whole = "held a salt 1;held b salt 2;holder p has a wants b purse 5;";
-        String[] parts = {"held", "held a", "held a salt", "held a salt 1", whole + "holder", whole + "holder q",
-            whole + "holder q has", whole + "holder q has b", whole + "holder q has b wants",
-            whole + "holder q has b wants a", whole + "holder q has b wants a purse",
-            whole + "holder q has b wants a purse 1", whole + "values", whole + "values p", whole + "values p a",
-            whole + "values p a 1", whole + "feud", whole + "feud p", PQ + "feud p q", whole + "sister",
-            whole + "sister a", whole + "sister a b", "swaps", "swaps not", "swaps all", "swaps all or",
-            "swaps all and", "swaps [", "swaps [all", "swaps [all]", "swaps 1", "swaps 1<", "swaps 1<1", "pays",
-            "pays 1", "pays (", "pays (1", "pays (1)", "pays 1+", "pays 1-", "pays 1*", "pays 1/", "pays min",
-            "pays min(", "pays min(1", "pays min(1,", "pays max(1,2", "pays max(1,2)", "fog", "fog 5"};
-        for (String part : parts) {
+        for (String part : begun()) {
             fault(c, 1, part + "^");
             fault(c, 1, part + " \n^");
+        }
+        String[] whole = {"held a salt 1", AB + "holder q has b wants a purse 1", PQ + "values p a 1", PQ + "feud p q",
+            PQ + "sister a b", "swaps all", "swaps [all]", "swaps 1<1", "pays 1", "pays (1)", "pays max(1,2)", "fog 5"};
+        for (String text : whole) {
+            fault(c, 1, text + "^");
+            fault(c, 1, text + " \n^");
+            c.due("with a semicolon: " + text, Check.open(new WrongCook(), text + ";") > 0, true);
         }
         WrongCook x = new WrongCook();
         Check.tape(x, "fog 5;held a salt 1;");

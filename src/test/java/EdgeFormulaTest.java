@@ -10,6 +10,8 @@ final class EdgeFormulaTest {
         leftOn(c);
         bothAndOr(c);
         notOf(c);
+        everyFact(c);
+        manyFormulas(c);
         quotients(c);
         greatest(c);
         parts(c);
@@ -147,6 +149,55 @@ final class EdgeFormulaTest {
         EdgeCaseTest.fault(c, 1, "pays min(1^);");
         EdgeCaseTest.fault(c, 1, "pays min(1,2^,3);");
         EdgeCaseTest.fault(c, 1, "pays max(1^;2);");
+    }
+
+    private static void everyFact(Check c) {
+        c.by("FACT: not FACT; [ TEST ] ; all; SUM SIGN SUM");
+        String[] so = {"1<2", "2>1", "2=2", "all", "[all]", "[1<2]", "not 2<1", "not 2=1", "not not 2>1", "not[1>2]", "0-2<0-1"};
+        String[] notSo = {"2<1", "1>2", "1=2", "not all", "[not all]", "[2<1]", "not 1<2", "not 2>1", "not not 1=2", "not[2=2]",
+            "0-1<0-2"};
+        for (String one : so) {
+            test(c, one, true);
+            test(c, "not " + one, false);
+            for (String other : so) {
+                test(c, one + " and " + other, true);
+                test(c, one + " or " + other, true);
+            }
+            for (String other : notSo) {
+                test(c, one + " and " + other, false);
+                test(c, other + " or " + one, true);
+                test(c, other + " and " + one, false);
+            }
+        }
+        for (String one : notSo) {
+            test(c, one, false);
+            test(c, "not " + one, true);
+            for (String other : notSo) {
+                test(c, one + " or " + other, false);
+                test(c, one + " and " + other, false);
+            }
+        }
+    }
+
+    private static void manyFormulas(Check c) {
+        c.by("An object is used for at most 512 calls after it has been made");
+        WrongCook x = new WrongCook();
+        for (int k = 0; k < 85; k++) {
+            // "pays 1+min(3,2)*9;" and "often all", five calls a round.
+            x.feed(0x70617973, 0x20312b6d, 0x696e2833, 0x2c32292a, 0x393b3b3b);
+            c.due("end " + k, x.end(18), true);
+            c.due("open " + k, x.open(), 1);
+            x.feed(0x6f667465, 0x6e20616c, 0x6c202020, 0x20202020, 0x20202020);
+            c.due("ask " + k, x.ask(), 0);
+        }
+        WrongCook sums = Check.opened("held a salt 1;holder p has a wants a purse 7;");
+        WrongCook tests = Check.opened("held a salt 1;holder p has a wants a purse 7;");
+        for (int k = 0; k < 125; k++) {
+            c.due("sum " + k, Check.ask(sums, "most purse+1"), 8);
+            c.due("test " + k, Check.ask(tests, "often purse=7"), 1);
+        }
+        c.due("the longest sum", Check.ask(sums, "total " + "(1)+".repeat(398) + "1"), 399);
+        c.due("the longest test", Check.ask(tests, "often" + " all and".repeat(198) + " all"), 1);
     }
 
     private static void quotients(Check c) {

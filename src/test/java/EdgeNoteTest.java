@@ -183,6 +183,9 @@ final class EdgeNoteTest {
         // p has b or c, q any one yet: c by r is in one of four ways, b by p in two.
         Check.note(x, 0, 0, 0);
         next(c, x, 0, 1, 2);
+        // p has c: q has a or b, a is the first.
+        Check.note(x, 0, 2, 1);
+        next(c, x, 1, 0, 1);
         // Only the last holder and the last held halve the ways.
         WrongCook six = Check.opened(Told.people("abcdef"));
         Check.note(six, 0, 0, 1, 1, 1, 1, 2, 2, 1, 3, 3, 1);

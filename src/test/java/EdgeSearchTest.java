@@ -143,7 +143,13 @@ final class EdgeSearchTest {
         Check.ring(x, 2, 1, 0);
         c.due("there", x.meetings(2) + x.meetings(3), 0);
         Check.open(x, Told.people("bca") + "feud p q;");
-        c.due("of another case", x.meetings(3), 2);
+        c.due("of another case", x.meetings(2) * 10 + x.meetings(3), 22);
+        Check.open(x, Told.people("ba"));
+        c.due("of a third case", x.meetings(2) * 10 + x.meetings(3), 11);
+        Check.open(x, Told.people("bac"));
+        c.due("without a feud", x.meetings(2) * 10 + x.meetings(3), 11);
+        Check.open(x, Told.people("bac") + "feud p q;");
+        c.due("with one", x.meetings(2) * 10 + x.meetings(3), 33);
     }
 
     private static void gainMore(Check c) {
