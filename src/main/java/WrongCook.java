@@ -150,7 +150,8 @@ public final class WrongCook {
 
     public boolean end(int n) {
         if (n < 0 || n > tapeSize) {
-            return refuse(0) >= 0;
+            refuse(0);
+            return false;
         }
         tapeSize = n;
         return true;
@@ -485,7 +486,8 @@ public final class WrongCook {
 
     public boolean want(int holder, int held) {
         if (!isHolder(holder) || !isHeld(held) || now.wants[holder] == held) {
-            return refuse(2) >= 0;
+            refuse(2);
+            return false;
         }
         history.remember(now);
         now.wants[holder] = held;
@@ -509,12 +511,17 @@ public final class WrongCook {
     }
 
     public boolean undo() {
-        return history.recall(now) || refuse(4) >= 0;
+        if (!history.recall(now)) {
+            refuse(4);
+            return false;
+        }
+        return true;
     }
 
     public boolean seed(int seed) {
         if (seed < 0) {
-            return refuse(5) >= 0;
+            refuse(5);
+            return false;
         }
         this.seed = seed;
         return true;
@@ -571,7 +578,8 @@ public final class WrongCook {
 
     public boolean resume() {
         if (!isImage(takeTape())) {
-            return refuse(5) >= 0;
+            refuse(5);
+            return false;
         }
         now.night = tapePair(0);
         now.keptCount = 0;
@@ -594,6 +602,7 @@ public final class WrongCook {
 
     // ---- what the calls share
 
+    /** Always NONE, so that it can be a call's answer. */
     private int refuse(int sort) {
         refused[sort]++;
         return NONE;
