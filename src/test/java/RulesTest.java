@@ -35,6 +35,9 @@ import javax.tools.ToolProvider;
 final class RulesTest extends TreePathScanner<Void, Void> {
     private static final String FACE = "feed end open fault has letter held holder values met kept judge judged needed "
             + "meetings gain trade together clear on note can next ring want nights undo seed ask image octet resume status";
+    // Of rule 4, what the class uses.
+    private static final Set<String> LIBRARY = Set.of("String.length", "String.charAt", "System.arraycopy", "Arrays.copyOf",
+            "Arrays.fill", "Math.max", "Math.min", "Math.floorDiv", "Integer.bitCount");
     private final Check c = new Check();
     private final Trees trees;
     private final CompilationUnitTree unit;
@@ -180,23 +183,34 @@ final class RulesTest extends TreePathScanner<Void, Void> {
         return null;
     }
 
-    private void called(Element method) {
+    private void called(Element method, Tree tree) {
         boolean own = method != null && trees.getTree(method) != null
                 && (method.getKind() == ElementKind.METHOD || method.getKind() == ElementKind.CONSTRUCTOR);
         if (own && caller != null) {
             calls.get(caller).add(method);
         }
+        boolean known = own || method != null && (isMadeByItself(method)
+                || LIBRARY.contains(method.getEnclosingElement().getSimpleName() + "." + method.getSimpleName()));
+        if (!known) {
+            never("a call of " + method, tree);
+        }
+    }
+
+    /** A constructor that an own class, or Object above it, has without its being written. */
+    private boolean isMadeByItself(Element method) {
+        Element of = method.getEnclosingElement();
+        return method.getKind() == ElementKind.CONSTRUCTOR && (trees.getTree(of) != null || of.toString().equals("java.lang.Object"));
     }
 
     @Override
     public Void visitMethodInvocation(MethodInvocationTree tree, Void nothing) {
-        called(trees.getElement(getCurrentPath()));
+        called(trees.getElement(getCurrentPath()), tree);
         return super.visitMethodInvocation(tree, nothing);
     }
 
     @Override
     public Void visitNewClass(NewClassTree tree, Void nothing) {
-        called(trees.getElement(getCurrentPath()));
+        called(trees.getElement(getCurrentPath()), tree);
         if (tree.getClassBody() != null) {
             never("an anonymous class", tree);
         }
